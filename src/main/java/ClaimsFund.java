@@ -573,7 +573,6 @@ public final class ClaimsFund {
             late = newLate;
             papers = newPapers;
             state = OPEN;
-            purse.empty();
         }
 
         boolean isIn() {
@@ -611,7 +610,10 @@ public final class ClaimsFund {
         }
     }
 
-    /** What a claim was paid, and who got it. */
+    /**
+     * What a claim was paid, and who got it. Claims, liens and heirs go by images alone, which copy whole
+     * rows: so a row that none has yet is always as new, and nobody needs to empty it.
+     */
     private static final class Purse {
         int percent;
         int liens;
@@ -624,15 +626,6 @@ public final class ClaimsFund {
         final long[] lienGot = new long[LIENS];
         final int[] part = new int[HEIRS];
         final long[] heirGot = new long[HEIRS];
-
-        void empty() {
-            percent = 0;
-            liens = 0;
-            heirs = 0;
-            paid = 0;
-            lawyer = 0;
-            self = 0;
-        }
 
         void copyFrom(Purse other) {
             percent = other.percent;
@@ -654,7 +647,6 @@ public final class ClaimsFund {
             }
             rank[liens] = newRank;
             owed[liens] = newOwed;
-            lienGot[liens] = 0;
             liens++;
             return liens - 1;
         }
@@ -664,7 +656,6 @@ public final class ClaimsFund {
                 return NONE;
             }
             part[heirs] = newPart;
-            heirGot[heirs] = 0;
             heirs++;
             return heirs - 1;
         }

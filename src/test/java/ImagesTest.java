@@ -9,6 +9,8 @@ public final class ImagesTest {
         behindTheEnd();
         claimsComeFreshAfterAnImage();
         manyOfThem();
+        liensAndHeirsAreKept();
+        theTapeIsKept();
         Check.end();
     }
 
@@ -143,5 +145,45 @@ public final class ImagesTest {
             x.again(i % 3);
             Check.due("points by image " + i % 3, x.points(0, 0, 0, 0), i);
         }
+    }
+
+    private static void liensAndHeirsAreKept() {
+        ClaimsFund x = Check.withGrid("points 10;");
+        x.claim(0, 0, 0, 0, 0);
+        x.judge(0);
+        x.image(0);
+        x.lien(0, 5, 20);
+        x.lien(0, 2, 30);
+        x.heir(0, 1);
+        x.heir(0, 3);
+        x.image(1);
+        x.again(0);
+        x.lien(0, 0, 7);
+        x.lien(0, 1, 8);
+        x.heir(0, 9);
+        x.heir(0, 9);
+        x.wave(100);
+        Check.due("heir 0 of 9 and 9", x.money(0, 20), 493);
+        x.again(1);
+        x.wave(4);
+        Check.due("rank 5", x.money(0, 10), 10);
+        Check.due("rank 2", x.money(0, 11), 30);
+        x.wave(45);
+        Check.due("rank 5 has all", x.money(0, 10), 20);
+        Check.due("heir 0 of 1 and 3", x.money(0, 20), 100);
+        Check.due("heir 1 of 1 and 3", x.money(0, 21), 300);
+    }
+
+    private static void theTapeIsKept() {
+        ClaimsFund x = new ClaimsFund();
+        Check.tape(x, "points 3;");
+        x.image(0);
+        x.end(0);
+        Check.tape(x, "none; none;");
+        x.again(0);
+        Check.due("its length", x.end(9), 9);
+        Check.due("not more", x.end(10), -1);
+        Check.due("its lines", x.grid(), 1);
+        Check.due("its points", x.points(0, 0, 0, 0), 3);
     }
 }

@@ -56,6 +56,10 @@ public final class MoneyTest {
         Check.due("nobody was paid", x.fund(50), true);
         Check.due("a wave", x.wave(100), 25);
         Check.due("one was paid", x.fund(50), false);
+        ClaimsFund z = oneOf(100);
+        Check.due("a wave of one coin", z.wave(1), 1);
+        Check.due("one coin was paid", z.fund(50), false);
+        Check.due("nor does it go out", z.out(0, true), false);
         ClaimsFund y = new ClaimsFund();
         Check.due("fund(7)", y.fund(7), true);
         Check.due("fund(7) again", y.fund(7), true);

@@ -190,6 +190,17 @@ public final class TextTest {
         fault("7;", 1, 0);
         fault("none; `", 1, 6);
         fault("none; {", 1, 6);
+        fault("xoints 5;", 1, 0);
+        fault("xhen kind = 3: none;", 1, 0);
+        fault("pointsz 5;", 1, 0);
+        fault("pointsa 5;", 1, 0);
+        for (char low = 0; low < 32; low++) {
+            if (low != 10) {
+                fault("points 5;" + low, 1, 9);
+                fault("points " + low + ";", 1, 7);
+                fault(low + " 5;", 1, 0);
+            }
+        }
     }
 
     private static void noSuchPaper() {
