@@ -231,6 +231,8 @@ public final class TextTest {
         fault(lines(16) + "when paper 6: none;", 3, 80);
         fault(lines(15) + "when paper 6: none; none;", 2, 86);
         fault(four + " and kind=1: none;" + lines(16), 3, four.length() + 5);
+        fault(lines(15) + four + " and kind=1: none;", 3, 75 + four.length() + 5);
+        Check.due("16 lines, the last of 4 tests", Check.grid(x, lines(15) + four + ":none;"), 16);
     }
 
     private static void unreadableGoesFirst() {
