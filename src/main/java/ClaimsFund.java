@@ -386,7 +386,7 @@ public final class ClaimsFund {
 
         /** Needs no look at what holds: the others' worst only rises when points go. */
         boolean sendOut(Claim one) {
-            if (one.purse.paid > 0) {
+            if (one.state == OUT || one.purse.paid > 0) {
                 return false;
             }
             one.settle(OUT, 0);

@@ -394,7 +394,7 @@ final class Model {
     }
 
     boolean out(int claim, boolean out) {
-        if (ended || at(claim) == null || (out ? at(claim).paid > 0 : at(claim).state != 'x')) {
+        if (ended || at(claim) == null || (at(claim).state == 'x') == out || out && at(claim).paid > 0) {
             return false;
         }
         return tried(() -> {
