@@ -68,16 +68,8 @@ public final class ImagesTest {
     }
 
     private static String all(ClaimsFund x) {
-        StringBuilder told = new StringBuilder();
-        for (int what = 0; what < 7; what++) {
-            told.append(x.count(what)).append(' ').append(x.sum(what)).append(' ').append(x.fault(what)).append(' ');
-        }
-        for (int claim = 0; claim < 16; claim++) {
-            for (int what = 0; what < 24; what++) {
-                told.append(x.tell(claim, what)).append(' ').append(x.money(claim, what)).append(' ');
-            }
-        }
-        for (int papers = 0; papers < 64; papers++) {
+        StringBuilder told = new StringBuilder(Check.told(x));
+        for (int papers = 0; papers < 16; papers++) {
             told.append(x.points(papers % 4, papers % 7, papers, papers)).append(' ');
         }
         return told.toString();
