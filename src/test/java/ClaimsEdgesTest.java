@@ -20,6 +20,8 @@ public final class ClaimsEdgesTest {
         paperThatItHas();
         paperBehindTheEnd();
         papersThatComeDoNotChangeIt();
+        holdsWithAsMuchAsTheWorst();
+        holdsForTheLast();
         judgedByItsPapers();
         judgeNoSuchClaim();
         judgeATwin();
@@ -242,6 +244,48 @@ public final class ClaimsEdgesTest {
         }
         Check.due("least with all", x.tell(1, 6), 10);
         Check.due("judge(1)", x.judge(1), 10);
+    }
+
+    private static void holdsWithAsMuchAsTheWorst() {
+        Check.sentence("Term 3", "It HOLDS if no CLAIM was PAID more than its WORST (as much is not more)");
+        ClaimsFund x = Check.withGrid("points 10;");
+        x.fund(10);
+        for (int i = 0; i < 3; i++) {
+            x.claim(i, 0, 0, 0, 0);
+            x.judge(i);
+        }
+        x.out(2, true);
+        x.appeal(1, 20);
+        Check.due("wave(100), 10 * 10 / 30 and 10 * 20 / 30", x.wave(100), 9);
+        Check.due("appeal(1, 23), 10 * 10 / 33", x.appeal(1, 23), true);
+        Check.due("appeal(1, 24), 10 * 10 / 34", x.appeal(1, 24), false);
+        Check.due("appeal(1, 20)", x.appeal(1, 20), true);
+        Check.due("appeal(1, 15), 10 * 15 / 25", x.appeal(1, 15), true);
+        Check.due("appeal(1, 14), 10 * 14 / 24", x.appeal(1, 14), false);
+        Check.due("out(2, false), 10 * 15 / 35", x.out(2, false), false);
+        Check.due("paid 1", x.money(1, 1), 6);
+        Check.due("its worst", x.money(1, 0), 6);
+    }
+
+    private static void holdsForTheLast() {
+        Check.sentence("Term 3", "It HOLDS if no CLAIM was PAID more than its WORST (not the last one, either)");
+        ClaimsFund x = Check.withGrid("points 10;");
+        for (int i = 0; i < 16; i++) {
+            x.claim(i, 0, 0, 0, 0);
+        }
+        x.judge(0);
+        x.out(1, true);
+        x.judge(15);
+        x.appeal(0, 0);
+        Check.due("wave(100), 1000 * 10 / 140", x.wave(100), 71);
+        Check.due("grid() of one point more each", Check.grid(x, "points 11;"), -2);
+        Check.due("appeal(0, 1), 1000 * 10 / 141", x.appeal(0, 1), false);
+        Check.due("out(1, false), 1000 * 10 / 150", x.out(1, false), false);
+        x.out(14, true);
+        Check.due("appeal(0, 10), 1000 * 10 / 140", x.appeal(0, 10), true);
+        Check.due("out(1, false), 1000 * 10 / 150", x.out(1, false), false);
+        x.appeal(0, 0);
+        Check.due("out(1, false), 1000 * 10 / 140", x.out(1, false), true);
     }
 
     private static void judgedByItsPapers() {

@@ -43,6 +43,7 @@ public final class MoneyEdgesTest {
         moneyOfAnotherWhat();
         moneyOfNoSuchLienOrHeir();
         feeAtTheEdges();
+        feeOfAnotherPercent();
         feeIsCut();
         feeOfEachPayment();
         heirsOfEachPayment();
@@ -50,6 +51,7 @@ public final class MoneyEdgesTest {
         feeOfNoSuchClaim();
         feeBehindTheEnd();
         lienAtTheEdges();
+        lienAndHeirOfAnyClaim();
         lienOfOtherNumbers();
         fifthLien();
         lienOnNoSuchClaim();
@@ -612,18 +614,30 @@ public final class MoneyEdgesTest {
     }
 
     private static void feeAtTheEdges() {
-        Check.sentence("Promise 16", "FEE of a CLAIM's LAWYER from now on: true (0 .. 40); false: .. another FEE");
-        ClaimsFund x = Check.withOneJudged(1000);
+        Check.sentence("Promise 16", "FEE of a CLAIM's LAWYER from now on: true (0 .. 40)");
+        ClaimsFund x = alike(3, 3000);
+        x.out(2, true);
+        x.claim(3, 0, 0, 0, 0);
         for (int percent : new int[] {40, 1, 0, 39}) {
-            Check.due("fee(0, " + percent + ")", x.fee(0, percent), true);
-            Check.due("tell(0, 9)", x.tell(0, 9), percent);
+            for (int claim = 0; claim < 4; claim++) {
+                Check.due("fee(" + claim + ", " + percent + ")", x.fee(claim, percent), true);
+                Check.due("tell(" + claim + ", 9)", x.tell(claim, 9), percent);
+            }
         }
+        Check.due("fee(0, 39) again", x.fee(0, 39), true);
+        Check.due("wave(10)", x.wave(10), 200);
+        Check.due("the lawyer", x.money(0, 2), 39);
+    }
+
+    private static void feeOfAnotherPercent() {
+        Check.sentence("Promise 16", "false: .. another FEE");
+        ClaimsFund x = Check.withOneJudged(1000);
+        x.fee(0, 39);
+        String before = Check.told(x);
         for (int percent : new int[] {-1, 41, 100, LEAST, GREATEST}) {
             Check.due("fee(0, " + percent + ")", x.fee(0, percent), false);
-            Check.due("tell(0, 9)", x.tell(0, 9), 39);
         }
-        Check.due("wave(10)", x.wave(10), 100);
-        Check.due("the lawyer", x.money(0, 2), 39);
+        Check.unchanged("fee", x, before);
     }
 
     private static void feeIsCut() {
@@ -720,6 +734,22 @@ public final class MoneyEdgesTest {
         Check.due("lien 1 of 1000000000", x.money(0, 11), 1000000000L);
         Check.due("lien 2 of 1000000000", x.money(0, 12), 1000000000L);
         Check.due("lien 0 of another", x.money(1, 10), 1);
+    }
+
+    private static void lienAndHeirOfAnyClaim() {
+        Check.sentence("Promise 17, 18", "A LIEN on a CLAIM .. An HEIR of a CLAIM (open, judged, paid or out)");
+        ClaimsFund x = alike(2, 1000);
+        x.claim(5, 0, 0, 0, 0);
+        x.out(1, true);
+        x.wave(1);
+        for (int claim = 0; claim < 3; claim++) {
+            Check.due("lien(" + claim + ", 0, 1)", x.lien(claim, 0, 1), 0);
+            Check.due("heir(" + claim + ", 1)", x.heir(claim, 1), 0);
+            Check.due("lien(" + claim + ", 0, 1) again", x.lien(claim, 0, 1), 1);
+            Check.due("heir(" + claim + ", 1) again", x.heir(claim, 1), 1);
+            Check.due("tell(" + claim + ", 10)", x.tell(claim, 10), 2);
+            Check.due("tell(" + claim + ", 11)", x.tell(claim, 11), 2);
+        }
     }
 
     private static void lienOfOtherNumbers() {
