@@ -7,6 +7,7 @@ import com.sun.source.tree.MemberSelectTree;
 import com.sun.source.tree.MethodInvocationTree;
 import com.sun.source.tree.MethodTree;
 import com.sun.source.tree.ModifiersTree;
+import com.sun.source.tree.NewArrayTree;
 import com.sun.source.tree.NewClassTree;
 import com.sun.source.tree.Tree;
 import com.sun.source.tree.VariableTree;
@@ -14,9 +15,12 @@ import com.sun.source.util.JavacTask;
 import com.sun.source.util.TreeScanner;
 import com.sun.source.util.Trees;
 import java.io.IOException;
+import java.lang.reflect.Constructor;
 import java.lang.reflect.Field;
 import java.lang.reflect.Method;
 import java.lang.reflect.Modifier;
+import java.nio.charset.StandardCharsets;
+import java.nio.file.Files;
 import java.nio.file.Path;
 import java.util.ArrayDeque;
 import java.util.Arrays;
@@ -41,6 +45,12 @@ public final class LanguageTest {
         Tree.Kind.SYNCHRONIZED, Tree.Kind.ASSERT, Tree.Kind.LAMBDA_EXPRESSION, Tree.Kind.MEMBER_REFERENCE,
         Tree.Kind.ANNOTATION, Tree.Kind.SWITCH_EXPRESSION, Tree.Kind.TYPE_CAST);
     private static final Set<String> LIBRARY = Set.of("length", "charAt", "min", "max", "bitCount", "arraycopy");
+    private static final Set<String> OWNERS = Set.of("Math", "Integer", "Long", "System");
+    private static final Set<String> OBJECT = Set.of("equals", "hashCode", "toString", "finalize", "clone");
+    private static final Set<String> STATICS = Set.of("int", "long", "boolean", "char", "String", "int[]", "long[]",
+        "char[]", "byte[]");
+    private static final Set<String> NUMBERS = Set.of("int", "long", "short", "byte", "char", "boolean", "void",
+        "double", "float", "String");
 
     private LanguageTest() {
     }
@@ -71,7 +81,11 @@ public final class LanguageTest {
             boolean open = !Modifier.isPrivate(field.getModifiers());
             Check.due("open field " + field.getName(), open, field.getName().equals("NONE"));
         }
-        Check.due("constructors", ClaimsFund.class.getConstructors().length, 1);
+        int modifiers = ClaimsFund.class.getModifiers();
+        Check.due("the class is public and final", Modifier.isPublic(modifiers) && Modifier.isFinal(modifiers), true);
+        Constructor<?>[] made = ClaimsFund.class.getDeclaredConstructors();
+        boolean one = made.length == 1 && Modifier.isPublic(made[0].getModifiers()) && made[0].getParameterCount() == 0;
+        Check.due("one public constructor", one, true);
         for (Class<?> inside : ClaimsFund.class.getDeclaredClasses()) {
             Check.due(inside + " is static", Modifier.isStatic(inside.getModifiers()), true);
             Check.due(inside + " is public", Modifier.isPublic(inside.getModifiers()), false);
@@ -81,6 +95,11 @@ public final class LanguageTest {
     }
 
     private static void source() throws IOException {
+        for (char sign : Files.readString(SOURCE, StandardCharsets.ISO_8859_1).toCharArray()) {
+            if (sign != '\n' && (sign < 32 || sign > 126)) {
+                wrong("sign " + (int) sign);
+            }
+        }
         JavaCompiler compiler = ToolProvider.getSystemJavaCompiler();
         try (StandardJavaFileManager files = compiler.getStandardFileManager(null, null, null)) {
             JavacTask task = (JavacTask) compiler.getTask(null, files, null, List.of("-proc:none"), null,
@@ -88,7 +107,8 @@ public final class LanguageTest {
             CompilationUnitTree unit = task.parse().iterator().next();
             Reader reader = new Reader(unit, Trees.instance(task));
             reader.scan(unit, null);
-            Check.due("classes above 12", reader.classes > 12, false);
+            Check.due("classes above 12", reader.classes.size() > 12, false);
+            reader.types();
             reader.depths();
         }
     }
@@ -98,7 +118,8 @@ public final class LanguageTest {
         private final Trees trees;
         private final Map<String, Set<String>> calls = new HashMap<>();
         private final Deque<String> within = new ArrayDeque<>();
-        private int classes;
+        private final Set<String> classes = new TreeSet<>();
+        private final Set<String> used = new TreeSet<>();
 
         Reader(CompilationUnitTree unit, Trees trees) {
             this.unit = unit;
@@ -135,7 +156,7 @@ public final class LanguageTest {
 
         @Override
         public Void visitClass(ClassTree tree, Void none) {
-            classes++;
+            classes.add(tree.getSimpleName().toString());
             if (tree.getKind() == Tree.Kind.CLASS && !tree.getModifiers().getFlags().toString().contains("final")) {
                 wrong("class " + tree.getSimpleName() + " is not final");
             }
@@ -152,6 +173,10 @@ public final class LanguageTest {
             if (flags.contains("static") && !flags.contains("final")) {
                 wrong("static " + tree.getName() + " is not final");
             }
+            if (flags.contains("static") && !STATICS.contains(tree.getType().toString())) {
+                wrong("static " + tree.getName() + " of type " + tree.getType());
+            }
+            used.add(tree.getType().toString().replace("[]", ""));
             return super.visitVariable(tree, none);
         }
 
@@ -162,6 +187,12 @@ public final class LanguageTest {
             }
             if (lines(tree) > 60) {
                 wrong("lines of " + tree.getName());
+            }
+            if (OBJECT.contains(tree.getName().toString())) {
+                wrong("a method " + tree.getName());
+            }
+            if (tree.getReturnType() != null) {
+                used.add(tree.getReturnType().toString().replace("[]", ""));
             }
             within.push(tree.getName().toString());
             calls.computeIfAbsent(within.peek(), k -> new TreeSet<>());
@@ -175,14 +206,31 @@ public final class LanguageTest {
             Tree called = tree.getMethodSelect();
             Name name = called instanceof MemberSelectTree select ? select.getIdentifier()
                 : ((IdentifierTree) called).getName();
+            if (called instanceof MemberSelectTree select && isOfTheLibrary(select.getExpression().toString())) {
+                wrong("a call of " + select);
+            }
             if (!within.isEmpty()) {
                 calls.get(within.peek()).add(name.toString());
             }
             return super.visitMethodInvocation(tree, none);
         }
 
+        /** A capital first: a class, and none of those that the rules list. */
+        private static boolean isOfTheLibrary(String owner) {
+            return Character.isUpperCase(owner.charAt(0)) && !OWNERS.contains(owner) || owner.startsWith("java");
+        }
+
+        @Override
+        public Void visitNewArray(NewArrayTree tree, Void none) {
+            if (tree.getType() != null) {
+                used.add(tree.getType().toString().replace("[]", ""));
+            }
+            return super.visitNewArray(tree, none);
+        }
+
         @Override
         public Void visitNewClass(NewClassTree tree, Void none) {
+            used.add(tree.getIdentifier().toString());
             if (tree.getClassBody() != null) {
                 wrong("a class without a name in line " + line(tree));
             }
@@ -197,6 +245,14 @@ public final class LanguageTest {
                 wrong("texts joined or compared in line " + line(tree));
             }
             return super.visitBinary(tree, none);
+        }
+
+        void types() {
+            for (String type : used) {
+                if (!classes.contains(type) && !NUMBERS.contains(type)) {
+                    wrong("the type " + type);
+                }
+            }
         }
 
         void depths() {
